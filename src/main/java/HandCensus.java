@@ -78,11 +78,11 @@ public final class HandCensus {
             case 1:
                 return row.lates[p];
             case 2:
-                return row.scarves >> p & 1;
+                return (row.scarves >> p) & 1;
             case 3:
                 return row.hands[p];
             case 4:
-                return row.main >> p & 1;
+                return (row.main >> p) & 1;
             default:
                 return BAD;
         }
@@ -657,7 +657,7 @@ public final class HandCensus {
 
         void note(int time, int p, int source, int mark) {
             if (size < entries.length) {
-                entries[size] = time << 11 | p << 6 | source + 1 << 1 | mark;
+                entries[size] = (time << 11) | (p << 6) | ((source + 1) << 1) | mark;
                 size++;
             }
         }
@@ -701,11 +701,11 @@ public final class HandCensus {
         }
 
         static int sourceOf(int entry) {
-            return (entry >> 1 & 31) - 1;
+            return ((entry >> 1) & 31) - 1;
         }
 
         private static boolean isOf(int entry, int p, int mark) {
-            return (entry >> 6 & 31) == p && (entry & LOST_MARK) == mark;
+            return ((entry >> 6) & 31) == p && (entry & LOST_MARK) == mark;
         }
     }
 
@@ -752,7 +752,7 @@ public final class HandCensus {
                 lastDue = when;
             }
             for (int time = 0; time <= LATEST && time <= lastDue && (diary != null || unreached > 0); time++) {
-                int slot = time % WHEEL * PEOPLE;
+                int slot = (time % WHEEL) * PEOPLE;
                 if (another && time == when) {
                     due[slot + second] |= BY_SECOND;
                 }
@@ -804,7 +804,7 @@ public final class HandCensus {
                 unreached--;
             }
             int kind = p == sleeper ? Row.SLEEPS : row.kinds[p];
-            if (kind == Row.SLEEPS || kind == Row.COUNTS && feltMany[p] % 2 == 1) {
+            if (kind == Row.SLEEPS || (kind == Row.COUNTS && feltMany[p] % 2 == 1)) {
                 return;
             }
             int late = row.lates[p];
@@ -818,12 +818,12 @@ public final class HandCensus {
 
         private void passOn(int p, int time, int source) {
             for (int q = 0; q < row.people; q++) {
-                if (q == source || (row.hands[p] >> q & 1) == 0) {
+                if (q == source || ((row.hands[p] >> q) & 1) == 0) {
                     continue;
                 }
-                int at = (row.slow[p] >> q & 1) == 0 ? time : time + SCARF_TIME;
+                int at = ((row.slow[p] >> q) & 1) == 0 ? time : time + SCARF_TIME;
                 if (at <= LATEST) {
-                    due[at % WHEEL * PEOPLE + q] |= 1 << p + FROM_SHIFT;
+                    due[(at % WHEEL) * PEOPLE + q] |= 1 << (p + FROM_SHIFT);
                     lastDue = at > lastDue ? at : lastDue;
                 }
             }
@@ -916,7 +916,7 @@ public final class HandCensus {
         }
 
         private void compare(int p, int many, int latest) {
-            if (many > reaches || many == reaches && latest < lastTime) {
+            if (many > reaches || (many == reaches && latest < lastTime)) {
                 who = p;
                 reaches = many;
                 lastTime = latest;
@@ -993,7 +993,7 @@ public final class HandCensus {
         void gather(Row row, Squeeze squeeze) {
             size = 0;
             for (int p = 0; p < row.people; p++) {
-                if ((row.main >> p & 1) != 0 && squeeze.firstAt[p] != NONE) {
+                if (((row.main >> p) & 1) != 0 && squeeze.firstAt[p] != NONE) {
                     who[size] = p;
                     at[size] = squeeze.firstAt[p];
                     size++;
@@ -1183,10 +1183,10 @@ public final class HandCensus {
         }
 
         int leastOut() {
+            // the least as bits come first, so that of like ones the first stays
             int best = (1 << size) - 1;
             for (int out = 0; out < 1 << size; out++) {
-                int fewer = Integer.compare(Integer.bitCount(out), Integer.bitCount(best));
-                if ((fewer < 0 || fewer == 0 && out < best) && restCanBe(out)) {
+                if (Integer.bitCount(out) < Integer.bitCount(best) && restCanBe(out)) {
                     best = out;
                 }
             }
@@ -1195,7 +1195,7 @@ public final class HandCensus {
 
         private boolean restCanBe(int out) {
             for (int a = 0; a < size; a++) {
-                if ((out >> a & 1) == 0 && (conflicts[a] & ~out) != 0) {
+                if (((out >> a) & 1) == 0 && (conflicts[a] & ~out) != 0) {
                     return false;
                 }
             }

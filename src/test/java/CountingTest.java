@@ -6,6 +6,7 @@ public final class CountingTest {
         limits();
         doubts();
         leastRowOfNumbers();
+        twenty();
         onlyReachedOfTheMainSection();
         oneAlone();
         amounts();
@@ -118,6 +119,28 @@ public final class CountingTest {
         Check.due("the middle: doubt(2, NONE)", y.doubt(2, -1), 6);
         Check.due("the middle: doubt(2, 0)", y.doubt(2, 0), 2);
         Check.due("the middle: doubt(2, 1)", y.doubt(2, 1), 3);
+    }
+
+    private static void twenty() {
+        // times 0, 9 .. 171; by 1 to 9 every 9 has a doubt of 8, however it is cut
+        HandCensus x = Check.row("p9p9p9p9p9p9p9p9p9p9p9p9p9p9p9p9p9p9p9p9");
+        for (int n = 0; n <= 5; n++) {
+            Check.due("twenty: doubt(" + n + ", NONE)", x.doubt(n, -1), 152);
+            for (int i = 0; i < n; i++) {
+                Check.due("twenty: doubt(" + n + ", " + i + ")", x.doubt(n, i), i + 1);
+            }
+        }
+        Check.due("twenty: posts(151)", x.posts(151), -1);
+        Check.due("twenty: posts(152)", x.posts(152), 0);
+        // times 0, 3 .. 54, 55; of 55 by 3 to 3: 18, but no fewer than 19
+        HandCensus y = Check.row("p3p3p3p3p3p3p3p3p3p3p3p3p3p3p3p3p3p3p1p1");
+        y.limits(3, 3, 0);
+        Check.due("quick at the end: doubt(0, NONE)", y.doubt(0, -1), 0);
+        y.limits(1, 3, 0);
+        // of 55: 55 - 19; of 54 and 1: 54 - 18, and 1 - 1
+        Check.due("quick at the end: doubt(0, NONE), by 1 to 3", y.doubt(0, -1), 36);
+        Check.due("quick at the end: doubt(5, NONE), by 1 to 3", y.doubt(5, -1), 36);
+        Check.due("quick at the end: doubt(5, 4), by 1 to 3", y.doubt(5, 4), 5);
     }
 
     private static void onlyReachedOfTheMainSection() {

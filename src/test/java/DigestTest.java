@@ -5,6 +5,8 @@ public final class DigestTest {
         wrongCounts();
         digestOfNew();
         digestOfThree();
+        digestOfARing();
+        digestOfPosts();
         digestChangesNothing();
         Check.end();
     }
@@ -69,6 +71,31 @@ public final class DigestTest {
             // of 5: 2 - 2 and of 1: 0; of 6: 3 - 2; 1 alone might have slept
             0, 0, 1, 2, 0, 1, 1, 1);
         Check.due("three: digest()", x.digest(), want);
+    }
+
+    private static void digestOfARing() {
+        // 0 at 0, 3, 6 ..; 1 at 1, 2, 5, 8 ..; 2 at 1, 2, 4, 7 ..
+        long want = fold(3, 8, 1, 3, 0, 0, 0, 1, -1,
+            0, 1, 0, 6, 1, 0, 3, 34, 1, 3,
+            0, 1, 0, 5, 0, 1, 2, 34, 0, 1,
+            0, 1, 0, 3, 0, 1, 2, 35, 0, 1,
+            7, 1, 7, 0, 3, 1, 53,
+            -3, 0, 0, 7, 1, 0, 0, 0);
+        Check.due("a ring: digest()", Check.row("p1(p1p1o").digest(), want);
+    }
+
+    private static void digestOfPosts() {
+        // of 9 with a slip of 11: 20 - 0, which is no more than 20; with a slip of 12 it is more
+        for (int slip = 11; slip <= 12; slip++) {
+            HandCensus x = Check.row("p9p1");
+            x.limits(1, 9, slip);
+            long want = fold(2, 4, 2, 1, 0, 0, 0, 0, -1,
+                0, 9, 0, 2, 1, 0, -1, 1, 0, -1,
+                0, 1, 0, 1, 1, 9, -1, 1, 0, -1,
+                3, 9, 0, 1, 2, 1, 2,
+                -3, slip == 11 ? 0 : -1, 0, 3, 1, 0, 0, 0);
+            Check.due("a slip of " + slip + ": digest()", x.digest(), want);
+        }
     }
 
     private static void digestChangesNothing() {
