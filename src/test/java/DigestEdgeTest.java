@@ -108,6 +108,15 @@ public final class DigestEdgeTest {
         // with 0 at 400 the last two: see SqueezeEdgeTest
         count(Check.row("p4(p3p3o(p3p3o"), 7, 81);
         count(Check.row("p1p4(p3p3o(p3p3o"), 7, 79);
+        HandCensus x = Check.row("p1p1");
+        x.set(1, 0);
+        count(x, 7, 1);
+        x.set(2, 1);
+        count(x, 7, 0);
+        x.set(2, 0);
+        count(x, 7, 1);
+        x.type('p');
+        count(x, 7, 0);
     }
 
     private static void latestFinding() {

@@ -44,7 +44,7 @@ public final class ModelTest {
             same("type(" + (int) text.charAt(i) + ")", census.type(text.charAt(i)), model.type(text.charAt(i)));
             same("fault()", census.fault(), model.fault());
         }
-        return text.length() + 1;
+        return 2 * text.length() + 1;
     }
 
     private String noise() {
@@ -93,6 +93,11 @@ public final class ModelTest {
         return number(0, Math.max(0, model.count(0) - 1));
     }
 
+    // Now and then one who need not be there, or nobody.
+    private int someone() {
+        return random.nextInt(6) == 0 ? number(-1, 19) : one();
+    }
+
     private void same(String call, long got, long want) {
         Check.due("run " + run + ": " + call, got, want);
     }
@@ -116,7 +121,7 @@ public final class ModelTest {
         v[0] = one();
         switch (which) {
             case 0: v[1] = number(0, 4); same(told("person", v), census.person(v[0], v[1]), model.person(v[0], v[1])); break;
-            case 1: v[0] = number(0, 2); v[1] = v[0] == 2 ? number(0, 30) : one();
+            case 1: v[0] = number(0, 2); v[1] = v[0] == 2 ? number(0, random.nextInt(4) == 0 ? 99 : 30) : someone();
                 same(told("set", v), census.set(v[0], v[1]), model.set(v[0], v[1])); break;
             case 2: v[1] = number(0, 8); same(told("felt", v), census.felt(v[0], v[1]), model.felt(v[0], v[1])); break;
             case 3: v[1] = number(0, 400); same(told("many", v), census.many(v[0], v[1]), model.many(v[0], v[1])); break;

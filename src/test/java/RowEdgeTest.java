@@ -251,6 +251,10 @@ public final class RowEdgeTest {
             stops(text, text.length());
         }
         stops("sp1".repeat(19) + "(sp", 60);
+        stops("sp1".repeat(17) + "(sp1)sp1s", 60);
+        stops("sp1".repeat(17) + "(sp1)p1sp", 60);
+        stops("sp1".repeat(17) + "(sp1)p1(p", 60);
+        stops("sp1".repeat(18) + "(p1(p1", 60);
         HandCensus x = Check.row("p1(p1");
         x.type(')');
         Check.due("fault() when it is ended", x.fault(), -1);
@@ -378,6 +382,19 @@ public final class RowEdgeTest {
         Check.due("nothing of the old one is left: SCARF", x.person(0, 2), 0);
         Check.due("nothing of the old one is left: HANDS", x.person(0, 3), 0);
         Check.due("nothing of the old one is left: people", x.person(1, 0), -2);
+        x.wipe();
+        x.type('(');
+        Check.due("nothing of the old one is left: one for a fork", x.fault(), 0);
+        HandCensus scarf = Check.row("p1sp1");
+        scarf.wipe();
+        Check.type(scarf, "p1p1");
+        Check.due("nothing of the old one is left: felt(1, 0)", scarf.felt(1, 0), 1);
+        HandCensus bytes = Check.row("pp1p1");
+        bytes.wipe();
+        bytes.type('s');
+        Check.due("nothing of the old one is left: a letter", bytes.fault(), 1);
+        bytes.type('p');
+        Check.due("nothing of the old one is left: a figure", bytes.fault(), 2);
     }
 
     private static void faults() {

@@ -259,6 +259,11 @@ public final class SqueezeEdgeTest {
         feels(Check.row("p1(p1)sp1"), 2, 4);
         feels(Check.row("t9sd1"), 1, 12, 21);
         Check.due("nineteen of them", Check.row("sp9".repeat(20)).last(), 228);
+        Check.due("nineteen of them, back", with("sp9".repeat(20), 19, -1, 0).last(), 228);
+        HandCensus three = Check.row("p1(sp1)(sp1)sp1");
+        for (int p = 1; p <= 3; p++) {
+            feels(three, p, 4);
+        }
     }
 
     private static void notOverTheHandOfARing() {
