@@ -73,6 +73,10 @@ public final class FormTest {
         for (String one : FACE) {
             face.add(one.substring(one.indexOf(' ') + 1, one.indexOf('(')));
         }
+        for (Method method : HandCensus.class.getDeclaredMethods()) {
+            Check.holds("private " + method.getName() + " bears no public name",
+                Modifier.isPublic(method.getModifiers()) || !face.contains(method.getName()));
+        }
         Class<?>[] inside = HandCensus.class.getDeclaredClasses();
         Check.holds("at most twelve classes", inside.length < 12);
         for (Class<?> one : inside) {
